@@ -1,0 +1,47 @@
+/** Counts answers that are not as due, and ends a test's run with exit code 1 if there was one. */
+final class Check {
+
+    interface Call {
+        void run();
+    }
+
+    private static int wrong = 0;
+
+    private Check() {
+    }
+
+    static void is(String call, long got, long due) {
+        if (got != due) {
+            tell(call + " answered " + got + ", due is " + due);
+        }
+    }
+
+    static void is(String call, boolean got, boolean due) {
+        is(call, got ? 1 : 0, due ? 1 : 0);
+    }
+
+    /** The very class is asked for: a machine's own exception of a lower class would be wrong. */
+    static void refuses(String call, Class<? extends RuntimeException> due, Call it) {
+        try {
+            it.run();
+        } catch (RuntimeException got) {
+            if (got.getClass() != due) {
+                tell(call + " threw " + got + ", due is " + due.getName());
+            }
+            return;
+        }
+        tell(call + " threw nothing, due is " + due.getName());
+    }
+
+    static void tell(String text) {
+        wrong++;
+        System.out.println(text);
+    }
+
+    static void end() {
+        if (wrong != 0) {
+            System.out.println(wrong + " answers are not as due");
+            System.exit(1);
+        }
+    }
+}
