@@ -24,7 +24,7 @@ public final class LoadRoom {
 
     public LoadRoom(int width, int height, int depth) {
         box = new Box(nearestLength(width), nearestLength(height), nearestLength(depth));
-        cargo = new Cargo();
+        cargo = new Cargo(box);
         search = new Search(box, cargo);
         axles = new Axles();
     }
@@ -52,7 +52,7 @@ public final class LoadRoom {
             throw new IllegalArgumentException("the marks are not 0 .. 3");
         }
         int before = it.marks;
-        it.marks = marks;
+        it.mark(marks);
         search.forget();
         return before;
     }
@@ -80,7 +80,7 @@ public final class LoadRoom {
     }
 
     public int fits(int piece) throws IndexOutOfBoundsException {
-        return cargo.get(piece).turnsInto(box);
+        return cargo.get(piece).goodTurns;
     }
 
     // ---- packing
@@ -89,7 +89,9 @@ public final class LoadRoom {
         if (!isWithin(steps, 1, MOST_STEPS)) {
             throw new IllegalArgumentException("the steps are not 1 .. 1000");
         }
-        return search.run(steps);
+        search.start(steps);
+        search.goBehind(0);
+        return search.best.volume;
     }
 
     public boolean exact() {
@@ -101,7 +103,7 @@ public final class LoadRoom {
     }
 
     public int bound() {
-        return Math.min(box.volume(), cargo.volumeFor(box));
+        return Math.min(box.volume(), cargo.volume());
     }
 
     public int at(int piece, int what) throws IndexOutOfBoundsException, IllegalArgumentException {
@@ -185,6 +187,9 @@ public final class LoadRoom {
     }
 
     private static final class Piece {
+        private final Box box;
+        private final boolean[] isGood = new boolean[TURNS];
+        private int goodTurns;
         private int width;
         private int height;
         private int depth;
@@ -193,14 +198,28 @@ public final class LoadRoom {
         private int stop;
         private int limit;
 
+        Piece(Box box) {
+            this.box = box;
+        }
+
         void become(int newWidth, int newHeight, int newDepth, int newWeight) {
             width = newWidth;
             height = newHeight;
             depth = newDepth;
             weight = newWeight;
-            marks = 0;
             stop = 0;
             limit = MOST_LIMIT;
+            mark(0);
+        }
+
+        /** A search asks for the good turns at each step, so they are found once, here. */
+        void mark(int newMarks) {
+            marks = newMarks;
+            goodTurns = 0;
+            for (int turn = 0; turn < TURNS; turn++) {
+                isGood[turn] = counts(turn) && goesIn(turn);
+                goodTurns += isGood[turn] ? 1 : 0;
+            }
         }
 
         int volume() {
@@ -246,20 +265,20 @@ public final class LoadRoom {
             }
         }
 
-        boolean allows(int turn) {
+        private boolean allows(int turn) {
             if (turn == 0) {
                 return true;
             }
             return turn == 1 ? (marks & 1) == 1 : marks >= 2;
         }
 
-        boolean looksAlike(int turn, int other) {
+        private boolean looksAlike(int turn, int other) {
             return widthIn(turn) == widthIn(other)
                     && heightIn(turn) == heightIn(other)
                     && depthIn(turn) == depthIn(other);
         }
 
-        boolean counts(int turn) {
+        private boolean counts(int turn) {
             if (!allows(turn)) {
                 return false;
             }
@@ -271,18 +290,8 @@ public final class LoadRoom {
             return true;
         }
 
-        boolean goesInto(Box box, int turn) {
+        private boolean goesIn(int turn) {
             return widthIn(turn) <= box.width && heightIn(turn) <= box.height && depthIn(turn) <= box.depth;
-        }
-
-        int turnsInto(Box box) {
-            int found = 0;
-            for (int turn = 0; turn < TURNS; turn++) {
-                if (goesInto(box, turn) && counts(turn)) {
-                    found++;
-                }
-            }
-            return found;
         }
     }
 
@@ -291,9 +300,9 @@ public final class LoadRoom {
         private final Piece[] pieces = new Piece[MOST_PIECES];
         private int count;
 
-        Cargo() {
+        Cargo(Box box) {
             for (int i = 0; i < MOST_PIECES; i++) {
-                pieces[i] = new Piece();
+                pieces[i] = new Piece(box);
             }
         }
 
@@ -321,10 +330,11 @@ public final class LoadRoom {
             return pieces[piece];
         }
 
-        int volumeFor(Box box) {
+        /** That of the pieces which fit. */
+        int volume() {
             int sum = 0;
             for (int i = 0; i < count; i++) {
-                if (pieces[i].turnsInto(box) > 0) {
+                if (pieces[i].goodTurns > 0) {
                     sum += pieces[i].volume();
                 }
             }
@@ -340,6 +350,9 @@ public final class LoadRoom {
         private int x;
         private int y;
         private int z;
+        private int right;
+        private int top;
+        private int front;
         private int width;
         private int height;
         private int depth;
@@ -370,6 +383,9 @@ public final class LoadRoom {
             x = other.x;
             y = other.y;
             z = other.z;
+            right = other.right;
+            top = other.top;
+            front = other.front;
             width = other.width;
             height = other.height;
             depth = other.depth;
@@ -379,25 +395,19 @@ public final class LoadRoom {
             bears = other.bears;
         }
 
-        int right() {
-            return x + width;
+        void moveToX(int place) {
+            x = place;
+            right = place + width;
         }
 
-        int top() {
-            return y + height;
+        void moveToY(int place) {
+            y = place;
+            top = place + height;
         }
 
-        int front() {
-            return z + depth;
-        }
-
-        int volume() {
-            return width * height * depth;
-        }
-
-        /** Twice the height of the middle keeps the moment whole. */
-        long lift() {
-            return (long) weight * (2 * y + height);
+        void moveToZ(int place) {
+            z = place;
+            front = place + depth;
         }
 
         boolean isPast(Placed other) {
@@ -407,37 +417,31 @@ public final class LoadRoom {
             return z != other.z ? z > other.z : x > other.x;
         }
 
-        boolean meetsWidth(Placed other) {
-            return x < other.right() && other.x < right();
-        }
-
-        boolean meetsHeight(Placed other) {
-            return y < other.top() && other.y < top();
-        }
-
-        boolean meetsDepth(Placed other) {
-            return z < other.front() && other.z < front();
-        }
-
         boolean sharesRoom(Placed other) {
-            return meetsWidth(other) && meetsDepth(other) && meetsHeight(other);
+            return x < other.right && other.x < right
+                    && z < other.front && other.z < front
+                    && y < other.top && other.y < top;
         }
 
         boolean isOver(Placed other) {
-            return y >= other.top() && meetsWidth(other) && meetsDepth(other);
+            return y >= other.top
+                    && x < other.right && other.x < right
+                    && z < other.front && other.z < front;
         }
 
         boolean shutsIn(Placed other) {
-            return stop > other.stop && z >= other.front() && meetsWidth(other) && meetsHeight(other);
+            return stop > other.stop && z >= other.front
+                    && x < other.right && other.x < right
+                    && y < other.top && other.y < top;
         }
 
         int restsOn(Placed other) {
-            if (y != other.top() || !isOver(other)) {
+            if (y != other.top) {
                 return 0;
             }
-            int wide = Math.min(right(), other.right()) - Math.max(x, other.x);
-            int deep = Math.min(front(), other.front()) - Math.max(z, other.z);
-            return wide * deep;
+            int wide = Math.min(right, other.right) - Math.max(x, other.x);
+            int deep = Math.min(front, other.front) - Math.max(z, other.z);
+            return wide > 0 && deep > 0 ? wide * deep : 0;
         }
 
         int tell(int what) {
@@ -504,8 +508,13 @@ public final class LoadRoom {
             return length > 0 ? slots[length - 1].y : 0;
         }
 
+        /** Nor, at that height, farther from the door than this. */
+        int leastDepth(int height) {
+            return length > 0 && slots[length - 1].y == height ? slots[length - 1].z : 0;
+        }
+
         boolean admits(Placed next) {
-            return isRising(next) && hasRoom(next) && letsStand(next) && carries(next) && letsOut(next);
+            return isRising(next) && letsStand(next) && hasRoom(next) && carries(next) && letsOut(next);
         }
 
         private boolean isRising(Placed next) {
@@ -555,10 +564,7 @@ public final class LoadRoom {
 
         void lengthen() {
             if (length < MOST_PIECES) {
-                Placed last = slots[length];
-                shiftWeight(last, last.weight);
-                volume += last.volume();
-                moment += last.lift();
+                reckon(slots[length], 1);
                 length++;
             }
         }
@@ -566,17 +572,17 @@ public final class LoadRoom {
         void shorten() {
             if (length > 0) {
                 length--;
-                Placed last = slots[length];
-                shiftWeight(last, -last.weight);
-                volume -= last.volume();
-                moment -= last.lift();
+                reckon(slots[length], -1);
             }
         }
 
-        private void shiftWeight(Placed over, int weight) {
+        /** Adds what a last piece brings (sign 1), or takes it away (sign -1). */
+        private void reckon(Placed last, int sign) {
+            volume += sign * last.width * last.height * last.depth;
+            moment += sign * last.weight * (2 * last.y + last.height);
             for (int i = 0; i < length; i++) {
-                if (over.isOver(slots[i])) {
-                    slots[i].bears += weight;
+                if (last.isOver(slots[i])) {
+                    slots[i].bears += sign * last.weight;
                 }
             }
         }
@@ -624,6 +630,47 @@ public final class LoadRoom {
         }
     }
 
+    /**
+     * The upper faces at one height (at 0 the box's floor), by their area and the least plan that has them all.
+     * A piece that is greater, or partly outside, can't stand there: so most places need no closer look.
+     */
+    private static final class Floor {
+        private int y;
+        private int area;
+        private int left;
+        private int right;
+        private int back;
+        private int front;
+
+        void lay(Box box) {
+            y = 0;
+            area = box.width * box.depth;
+            left = 0;
+            right = box.width;
+            back = 0;
+            front = box.depth;
+        }
+
+        void lay(int height, Row row) {
+            y = height;
+            area = 0;
+            for (int i = 0; i < row.length; i++) {
+                if (row.slots[i].top == height) {
+                    widen(row.slots[i]);
+                }
+            }
+        }
+
+        private void widen(Placed under) {
+            boolean first = area == 0;
+            area += under.width * under.depth;
+            left = first ? under.x : Math.min(left, under.x);
+            right = first ? under.right : Math.max(right, under.right);
+            back = first ? under.z : Math.min(back, under.z);
+            front = first ? under.front : Math.max(front, under.front);
+        }
+    }
+
     private static final class Search {
         private final Box box;
         private final Cargo cargo;
@@ -632,6 +679,7 @@ public final class LoadRoom {
         private final Ends rights = new Ends();
         private final Ends tops = new Ends();
         private final Ends fronts = new Ends();
+        private final Floor[] floors = new Floor[MOST_PIECES * MOST_PIECES];
         private int told;
         private int made = NONE;
         private boolean spent;
@@ -639,6 +687,9 @@ public final class LoadRoom {
         Search(Box box, Cargo cargo) {
             this.box = box;
             this.cargo = cargo;
+            for (int i = 0; i < MOST_PIECES * MOST_PIECES; i++) {
+                floors[i] = new Floor();
+            }
         }
 
         void forget() {
@@ -647,64 +698,62 @@ public final class LoadRoom {
             best.clear();
         }
 
-        int run(int steps) {
+        void start(int steps) {
             told = steps;
             made = 0;
             spent = false;
             row.clear();
             best.clear();
-            goBehind(0);
-            return best.volume;
         }
 
-        private void goBehind(int length) {
+        /** Searches what comes behind the row; its length is the depth of this recursion. */
+        void goBehind(int length) {
             if (length < 0 || length >= MOST_PIECES) {
                 return;
             }
+            layFloors(length);
             Placed next = row.slots[length];
             for (int piece = 0; piece < cargo.count && !spent; piece++) {
-                if (row.find(piece) == null) {
-                    tryTurns(next, piece);
+                Piece kind = cargo.pieces[piece];
+                boolean isLeft = row.find(piece) == null;
+                for (int turn = 0; turn < TURNS && isLeft && !spent; turn++) {
+                    if (kind.isGood[turn]) {
+                        next.take(piece, kind, turn);
+                        tryFloors(next);
+                    }
                 }
             }
         }
 
-        private void tryTurns(Placed next, int piece) {
-            Piece kind = cargo.get(piece);
-            for (int turn = 0; turn < TURNS && !spent; turn++) {
-                if (kind.goesInto(box, turn) && kind.counts(turn)) {
-                    next.take(piece, kind, turn);
-                    tryHeights(next);
-                }
+        private void layFloors(int length) {
+            floors[length * MOST_PIECES].lay(box);
+            for (int i = 1; i < tops.count(length); i++) {
+                floors[length * MOST_PIECES + i].lay(tops.get(length, i), row);
             }
         }
 
-        private void tryHeights(Placed next) {
+        private void tryFloors(Placed next) {
             int count = tops.count(next.number);
             for (int i = 0; i < count && !spent; i++) {
-                next.y = tops.get(next.number, i);
-                if (next.y >= row.leastHeight() && next.top() <= box.height) {
-                    tryDepths(next);
+                Floor floor = floors[next.number * MOST_PIECES + i];
+                next.moveToY(floor.y);
+                if (next.y >= row.leastHeight() && next.top <= box.height
+                        && next.width * next.depth <= floor.area) {
+                    tryPlaces(next, floor);
                 }
             }
         }
 
-        private void tryDepths(Placed next) {
-            int count = fronts.count(next.number);
-            for (int i = 0; i < count && !spent; i++) {
-                next.z = fronts.get(next.number, i);
-                if (next.front() <= box.depth) {
-                    tryWidths(next);
-                }
-            }
-        }
-
-        private void tryWidths(Placed next) {
-            int count = rights.count(next.number);
-            for (int i = 0; i < count && !spent; i++) {
-                next.x = rights.get(next.number, i);
-                if (next.right() <= box.width && row.admits(next)) {
-                    meet(next);
+        private void tryPlaces(Placed next, Floor floor) {
+            int least = Math.max(floor.back, row.leastDepth(floor.y));
+            for (int i = 0; i < fronts.count(next.number) && !spent; i++) {
+                next.moveToZ(fronts.get(next.number, i));
+                boolean isIn = next.z >= least && next.front <= floor.front;
+                for (int j = 0; j < rights.count(next.number) && isIn && !spent; j++) {
+                    next.moveToX(rights.get(next.number, j));
+                    if (next.x >= floor.left && next.right <= floor.right && row.admits(next)) {
+                        meet(next);
+                    }
                 }
             }
         }
@@ -716,9 +765,9 @@ public final class LoadRoom {
             }
             made++;
             row.lengthen();
-            rights.grow(next.number, next.right());
-            tops.grow(next.number, next.top());
-            fronts.grow(next.number, next.front());
+            rights.grow(next.number, next.right);
+            tops.grow(next.number, next.top);
+            fronts.grow(next.number, next.front);
             if (row.isBetterThan(best)) {
                 best.copy(row);
             }
