@@ -615,18 +615,18 @@ public final class LoadRoom {
             }
             int[] from = sorted[length];
             int[] into = sorted[length + 1];
+            int count = Math.min(counts[length], MOST_PIECES - 1);
             int smaller = 0;
-            while (smaller < counts[length] && from[smaller] < end) {
+            while (smaller < count && from[smaller] < end) {
                 into[smaller] = from[smaller];
                 smaller++;
             }
-            boolean known = smaller < counts[length] && from[smaller] == end;
-            int shift = known ? 0 : 1;
+            int shift = smaller < count && from[smaller] == end ? 0 : 1;
             into[smaller] = end;
-            for (int i = smaller; i < counts[length]; i++) {
+            for (int i = smaller; i < count; i++) {
                 into[i + shift] = from[i];
             }
-            counts[length + 1] = counts[length] + shift;
+            counts[length + 1] = count + shift;
         }
     }
 
@@ -694,7 +694,6 @@ public final class LoadRoom {
 
         void forget() {
             made = NONE;
-            spent = false;
             best.clear();
         }
 

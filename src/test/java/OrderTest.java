@@ -64,6 +64,23 @@ public final class OrderTest {
         room.order(1, 0);
         Check.is("pack(1000)", room.pack(1000), 3);
         Check.is("the small one is above", room.at(1, 1), 1);
+        LoadRoom deep = new LoadRoom(1, 2, 2);
+        deep.piece(1, 1, 1, 1);
+        deep.piece(1, 1, 1, 1);
+        deep.piece(1, 1, 1, 1);
+        deep.order(0, 2);
+        deep.order(1, 2);
+        Check.is("pack(1000), deep", deep.pack(1000), 3);
+        Check.is("over the one that is farther in", deep.at(2, 2), 0);
+        Check.is("just above the face of the one before it", deep.at(2, 1), 1);
+        deep.order(0, 0);
+        deep.order(1, 0);
+        deep.order(2, 2);
+        Check.is("pack(1000), high", deep.pack(1000), 3);
+        Check.is("farther in again", deep.at(2, 2), 0);
+        deep.limit(0, 0);
+        Check.is("pack(1000), high before the door", deep.pack(1000), 3);
+        Check.is("just above the face of the one behind it", deep.at(2, 1), 1);
     }
 
     /** A high piece and two low ones, one on the other: they stand all three, or the stops forbid it. */
