@@ -1,16 +1,30 @@
 /** Promise 14: axle. */
 public final class AxleTest {
 
-    private static final Class<IllegalArgumentException> ARGUMENT = IllegalArgumentException.class;
-    private static final Class<IllegalStateException> STATE = IllegalStateException.class;
-
     public static void main(String[] args) {
-        numbersCountUp();
-        placesRise();
-        theSixthMayBeTheLastPlace();
-        changesNoPacking();
-        refusalsChangeNothing();
-        Check.end();
+        Doc.open("Promise 14: axle");
+        Doc.says("An axle at a place (0 .. 1000)", AxleTest::takesTheLeastAndTheGreatest);
+        Doc.says("its number", AxleTest::numbersCountUp);
+        Doc.says("IllegalArgumentException", AxleTest::refusesOtherPlaces);
+        Doc.says("also if it is not above the last one's", AxleTest::refusesPlacesThatDoNotRise);
+        Doc.says("IllegalStateException: there are 6.", AxleTest::refusesASeventh);
+        Doc.end();
+    }
+
+    private static void takesTheLeastAndTheGreatest() {
+        LoadRoom room = new LoadRoom(1, 1, 1);
+        Check.is("axle(0)", room.axle(0), 0);
+        Check.is("axle(1)", room.axle(1), 1);
+        Check.is("axle(999)", room.axle(999), 2);
+        Check.is("axle(1000)", room.axle(1000), 3);
+        LoadRoom far = new LoadRoom(1, 1, 1);
+        Check.is("axle(1000) at first", far.axle(1000), 0);
+        LoadRoom packed = Packed.room();
+        packed.axle(1);
+        Check.is("what was packed is there: steps()", packed.steps(), 4);
+        Check.is("what was packed is there: moment()", packed.moment(), 19);
+        Check.is("both pieces weigh at 1", packed.load(1, 0), 7);
+        Check.is("and none at 0", packed.load(0, 0), 0);
     }
 
     private static void numbersCountUp() {
@@ -18,54 +32,49 @@ public final class AxleTest {
         for (int i = 0; i < 6; i++) {
             Check.is("axle " + i, room.axle(10 * i), i);
         }
-        Check.refuses("a seventh one", STATE, () -> room.axle(51));
-        Check.refuses("a seventh one, the farthest", STATE, () -> room.axle(1000));
-        Check.refuses("a seventh one, not above", ARGUMENT, () -> room.axle(50));
-        Check.refuses("a seventh one, too far", ARGUMENT, () -> room.axle(1001));
-        Check.is("the sixth is there", room.load(5, 1), 1);
-        Check.refuses("there is no seventh", IndexOutOfBoundsException.class, () -> room.load(6, 0));
     }
 
-    private static void placesRise() {
+    private static void refusesOtherPlaces() {
         LoadRoom room = new LoadRoom(1, 1, 1);
-        int[] wrong = {-1, 1001, Integer.MIN_VALUE, Integer.MAX_VALUE};
-        for (int place : wrong) {
-            Check.refuses("axle(" + place + ")", ARGUMENT, () -> room.axle(place));
+        LoadRoom packed = Packed.room();
+        int[] noPlaces = {-1, 1001, Integer.MIN_VALUE, Integer.MAX_VALUE};
+        for (int place : noPlaces) {
+            Check.refuses("axle(" + place + ") at first", Check.ARGUMENT, () -> room.axle(place));
+            Check.refuses("axle(" + place + ") as the second", Check.ARGUMENT, () -> packed.axle(place));
         }
-        Check.is("axle(0)", room.axle(0), 0);
-        Check.refuses("axle(0) again", ARGUMENT, () -> room.axle(0));
-        Check.is("axle(500)", room.axle(500), 1);
-        Check.refuses("axle(500) again", ARGUMENT, () -> room.axle(500));
-        Check.refuses("axle(499)", ARGUMENT, () -> room.axle(499));
+        Check.refuses("there is still none: load(0, 0)", Check.ARITHMETIC, () -> room.load(0, 0));
+        Check.refuses("there is still one: load(1, 0)", Check.INDEX, () -> packed.load(1, 0));
+        Packed.isThere(packed, "refused");
+        Check.is("the number that is next", packed.axle(2), 1);
+    }
+
+    private static void refusesPlacesThatDoNotRise() {
+        LoadRoom room = new LoadRoom(1, 1, 1);
+        room.axle(0);
+        Check.refuses("axle(0) again", Check.ARGUMENT, () -> room.axle(0));
+        room.axle(500);
+        Check.refuses("axle(500) again", Check.ARGUMENT, () -> room.axle(500));
+        Check.refuses("axle(499)", Check.ARGUMENT, () -> room.axle(499));
+        Check.refuses("axle(0)", Check.ARGUMENT, () -> room.axle(0));
         Check.is("axle(501)", room.axle(501), 2);
-        Check.is("axle(1000)", room.axle(1000), 3);
-        Check.refuses("axle(1000) again", ARGUMENT, () -> room.axle(1000));
-        Check.refuses("axle(1001)", ARGUMENT, () -> room.axle(1001));
+        room.axle(1000);
+        Check.refuses("axle(1000) again", Check.ARGUMENT, () -> room.axle(1000));
+        Check.refuses("axle(999)", Check.ARGUMENT, () -> room.axle(999));
     }
 
-    private static void theSixthMayBeTheLastPlace() {
+    private static void refusesASeventh() {
         LoadRoom room = new LoadRoom(1, 1, 1);
-        for (int i = 0; i < 6; i++) {
-            room.axle(995 + i);
+        for (int i = 0; i < 5; i++) {
+            room.axle(10 * i);
         }
-        Check.refuses("a seventh one can't be above", ARGUMENT, () -> room.axle(1000));
-    }
-
-    private static void changesNoPacking() {
-        LoadRoom room = Packed.room();
-        room.axle(1);
-        Check.is("steps()", room.steps(), 4);
-        Check.is("moment()", room.moment(), 19);
-        Check.is("both weigh at 1 now", room.load(1, 0), 7);
-        Check.is("and none at 0", room.load(0, 0), 0);
-    }
-
-    private static void refusalsChangeNothing() {
-        LoadRoom room = Packed.room();
-        Check.refuses("axle(0) again", ARGUMENT, () -> room.axle(0));
-        Check.refuses("axle(-1)", ARGUMENT, () -> room.axle(-1));
-        Check.refuses("axle(1001)", ARGUMENT, () -> room.axle(1001));
-        Packed.isThere(room, "refused");
-        Check.is("the number that is next", room.axle(2), 1);
+        Check.is("the sixth", room.axle(50), 5);
+        Check.refuses("a seventh", Check.STATE, () -> room.axle(51));
+        Check.refuses("a seventh, the farthest", Check.STATE, () -> room.axle(1000));
+        Check.refuses("a seventh, not above the last one", Check.ARGUMENT, () -> room.axle(50));
+        Check.refuses("a seventh, not above the first one", Check.ARGUMENT, () -> room.axle(0));
+        Check.refuses("a seventh, too near", Check.ARGUMENT, () -> room.axle(-1));
+        Check.refuses("a seventh, too far", Check.ARGUMENT, () -> room.axle(1001));
+        Check.is("the sixth is there", room.load(5, 1), 1);
+        Check.refuses("there is no seventh", Check.INDEX, () -> room.load(6, 0));
     }
 }

@@ -5,9 +5,20 @@ final class Check {
         void run();
     }
 
+    static final Class<IndexOutOfBoundsException> INDEX = IndexOutOfBoundsException.class;
+    static final Class<IllegalArgumentException> ARGUMENT = IllegalArgumentException.class;
+    static final Class<IllegalStateException> STATE = IllegalStateException.class;
+    static final Class<ArithmeticException> ARITHMETIC = ArithmeticException.class;
+
     private static int wrong = 0;
+    private static String about = "";
 
     private Check() {
+    }
+
+    /** What the checks that follow are about; each wrong answer is told with it. */
+    static void about(String words) {
+        about = words + ": ";
     }
 
     static void is(String call, long got, long due) {
@@ -35,7 +46,7 @@ final class Check {
 
     static void tell(String text) {
         wrong++;
-        System.out.println(text);
+        System.out.println(about + text);
     }
 
     static void end() {

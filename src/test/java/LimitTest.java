@@ -1,115 +1,76 @@
-/** Promise 5: limit; and that no piece bears more than that. */
+/** Promise 5: limit. That no piece bears more is in TermsPackingTest. */
 public final class LimitTest {
 
     public static void main(String[] args) {
-        answersWhatLimitWas();
-        bearsJustItsLimit();
-        bearsWhatIsFartherAboveToo();
-        bearsAllThatIsPartlyAbove();
-        doesNotBearWhatIsBeside();
-        forgetsWhatWasPacked();
-        refusesWrongNumbers();
-        Check.end();
+        Doc.open("Promise 5: limit");
+        Doc.says("Its LIMIT (0 .. 100000)", LimitTest::takesTheLeastAndTheGreatest);
+        Doc.says("what it was", LimitTest::answersWhatLimitWas);
+        Doc.says("What was packed is gone.", LimitTest::forgetsWhatWasPacked);
+        Doc.says("IndexOutOfBoundsException", LimitTest::refusesNoPieces);
+        Doc.says("IllegalArgumentException", LimitTest::refusesOtherLimits);
+        Doc.end();
+    }
+
+    /** The other one bears none, so that it is above if it goes in at all. */
+    private static void takesTheLeastAndTheGreatest() {
+        LoadRoom room = Rooms.box(1, 2, 1, Rooms.piece(1, 1, 1, 1), Rooms.piece(1, 1, 1, 1));
+        room.limit(1, 0);
+        room.limit(0, 0);
+        Check.is("limit 0: one goes in", room.pack(1000), 1);
+        room.limit(0, 1);
+        Check.is("limit 1: both go in", room.pack(1000), 2);
+        room.limit(0, 100000);
+        Check.is("limit 100000: both go in", room.pack(1000), 2);
+        room.limit(0, 0);
+        Check.is("limit 0 again: one goes in", room.pack(1000), 1);
     }
 
     private static void answersWhatLimitWas() {
-        LoadRoom room = new LoadRoom(4, 4, 4);
-        room.piece(1, 1, 1, 1);
-        room.piece(1, 1, 1, 1);
+        LoadRoom room = Rooms.ofUnits(4, 4, 4, 2);
         Check.is("limit(0, 0)", room.limit(0, 0), 100000);
+        Check.is("limit(0, 0) again", room.limit(0, 0), 0);
         Check.is("limit(0, 100000)", room.limit(0, 100000), 0);
-        Check.is("limit(1, 7)", room.limit(1, 7), 100000);
+        Check.is("limit(1, 7), another one", room.limit(1, 7), 100000);
         Check.is("limit(1, 8)", room.limit(1, 8), 7);
-    }
-
-    private static void bearsJustItsLimit() {
-        LoadRoom room = new LoadRoom(1, 2, 1);
-        room.piece(1, 1, 1, 5);
-        room.piece(1, 1, 1, 6);
-        room.limit(0, 6);
-        room.limit(1, 4);
-        Check.is("6 on 5 that bears 6", room.pack(1000), 2);
-        Check.is("who is below", room.at(0, 1), 0);
-        Check.is("what it bears", room.at(0, 5), 6);
-        room.limit(0, 5);
-        Check.is("6 on 5 that bears 5", room.pack(1000), 1);
-        room.limit(1, 5);
-        Check.is("5 on 6 that bears 5", room.pack(1000), 2);
-        Check.is("now the other one is below", room.at(1, 1), 0);
-    }
-
-    private static void bearsWhatIsFartherAboveToo() {
-        LoadRoom room = new LoadRoom(1, 3, 1);
-        room.piece(1, 1, 1, 2);
-        room.piece(1, 1, 1, 2);
-        room.piece(1, 1, 1, 2);
-        room.limit(0, 3);
-        room.limit(1, 3);
-        room.limit(2, 3);
-        Check.is("each bears one", room.pack(1000), 2);
-        room.limit(1, 4);
-        Check.is("one bears two", room.pack(1000), 3);
-        Check.is("it is the lowest", room.at(1, 1), 0);
-        Check.is("it bears both", room.at(1, 5), 4);
-        Check.is("the middle one bears one", room.at(0, 5), 2);
-        Check.is("the highest one bears none", room.at(2, 5), 0);
-    }
-
-    /** A long piece weighs wholly on each of the short ones under it, not by parts. */
-    private static void bearsAllThatIsPartlyAbove() {
-        LoadRoom room = new LoadRoom(4, 4, 1);
-        room.piece(2, 1, 1, 1);
-        room.piece(2, 1, 1, 1);
-        room.piece(4, 1, 1, 10);
-        room.piece(2, 1, 1, 1);
-        room.piece(2, 1, 1, 1);
-        room.limit(0, 11);
-        room.limit(1, 11);
-        room.limit(3, 11);
-        room.limit(4, 11);
-        Check.is("two stacks under a long one", room.pack(1000), 12);
-        room.limit(2, 0);
-        Check.is("the long one bears none", room.pack(1000), 12);
-        Check.is("so it is the highest", room.at(2, 1), 2);
-        Check.is("each of the lowest bears the one above and all of the long one", room.at(0, 5), 11);
-        room.limit(0, 10);
-        room.limit(1, 10);
-        room.limit(3, 10);
-        room.limit(4, 10);
-        Check.is("too much for the lowest ones of four", room.pack(1000), 8);
-    }
-
-    private static void doesNotBearWhatIsBeside() {
-        LoadRoom room = new LoadRoom(3, 2, 1);
-        room.piece(2, 1, 1, 9);
-        room.piece(1, 1, 1, 9);
-        room.piece(1, 1, 1, 9);
-        room.limit(0, 0);
-        Check.is("a pile beside it", room.pack(1000), 4);
-        Check.is("it bears none", room.at(0, 5), 0);
+        Check.is("limit(0, 99999)", room.limit(0, 99999), 100000);
+        Check.is("limit(0, 1)", room.limit(0, 1), 99999);
     }
 
     private static void forgetsWhatWasPacked() {
         LoadRoom room = Packed.room();
         room.limit(0, 1);
         Packed.isGone(room, "another limit");
+        LoadRoom last = Packed.room();
+        last.limit(1, 0);
+        Packed.isGone(last, "another limit of the last one");
         LoadRoom same = Packed.room();
         same.limit(0, 100000);
         Packed.isGone(same, "the same limit");
     }
 
-    private static void refusesWrongNumbers() {
+    private static void refusesNoPieces() {
         LoadRoom room = Packed.room();
-        int[] noPieces = {-1, 2, 8, Integer.MIN_VALUE, Integer.MAX_VALUE};
+        int[] noPieces = {-1, 2, 7, 8, Integer.MIN_VALUE, Integer.MAX_VALUE};
         for (int piece : noPieces) {
-            Check.refuses("limit(" + piece + ", 0)", IndexOutOfBoundsException.class, () -> room.limit(piece, 0));
-            Check.refuses("limit(" + piece + ", -1)", IndexOutOfBoundsException.class, () -> room.limit(piece, -1));
-        }
-        int[] noLimits = {-1, 100001, Integer.MIN_VALUE, Integer.MAX_VALUE};
-        for (int above : noLimits) {
-            Check.refuses("limit(0, " + above + ")", IllegalArgumentException.class, () -> room.limit(0, above));
+            Check.refuses("limit(" + piece + ", 0)", Check.INDEX, () -> room.limit(piece, 0));
+            Check.refuses("limit(" + piece + ", -1)", Check.INDEX, () -> room.limit(piece, -1));
+            Check.refuses("limit(" + piece + ", 100001)", Check.INDEX, () -> room.limit(piece, 100001));
         }
         Packed.isThere(room, "refused");
-        Check.is("limit after refusals", room.limit(0, 5), 100000);
+        LoadRoom full = Rooms.ofUnits(1, 1, 1, 8);
+        Check.is("the eighth piece: limit(7, 0)", full.limit(7, 0), 100000);
+        Check.refuses("eight pieces: limit(8, 0)", Check.INDEX, () -> full.limit(8, 0));
+    }
+
+    private static void refusesOtherLimits() {
+        LoadRoom room = Rooms.ofUnits(1, 2, 1, 2);
+        room.limit(0, 0);
+        room.pack(1000);
+        int[] noLimits = {-1, 100001, Integer.MIN_VALUE, Integer.MAX_VALUE};
+        for (int above : noLimits) {
+            Check.refuses("limit(0, " + above + ")", Check.ARGUMENT, () -> room.limit(0, above));
+            Check.is("refused: steps()", room.steps(), 3);
+        }
+        Check.is("what it was before the refusals", room.limit(0, 5), 0);
     }
 }
