@@ -6,7 +6,7 @@ import java.util.Map;
 import java.util.stream.Collectors;
 import java.util.stream.Stream;
 
-/** Each promise of the document, and each line of its terms, is opened by a test; each test then takes all its words. */
+/** Each promise of the document, and each line of its terms, is opened by a test, which then takes all its words. */
 public final class DocTest {
 
     public static void main(String[] args) throws IOException {

@@ -62,7 +62,7 @@ public final class FaceTest {
             if (!Modifier.isPrivate(method.getModifiers())) {
                 seen.add(method.getReturnType().getSimpleName() + " " + method.getName()
                         + names(method.getParameterTypes(), "(", ", ", ")")
-                        + names(method.getExceptionTypes(), method.getExceptionTypes().length == 0 ? "" : " ", " ", ""));
+                        + names(method.getExceptionTypes(), method.getExceptionTypes().length > 0 ? " " : "", " ", ""));
                 Check.is(method.getName() + " is public", method.getModifiers(), Modifier.PUBLIC);
             }
         }

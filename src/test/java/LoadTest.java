@@ -13,11 +13,6 @@ public final class LoadTest {
         Doc.end();
     }
 
-    private static void is(LoadRoom room, int axle, long above, long below) {
-        Check.is("load(" + axle + ", 0)", room.load(axle, 0), above);
-        Check.is("load(" + axle + ", 1)", room.load(axle, 1), below);
-    }
-
     /** 5 at 2: a third to axle 0, two thirds to 1. 7 at 5 1/2: three eighths to 1, five eighths to 2. */
     private static LoadRoom threeAxles() {
         LoadRoom room = Rooms.box(1, 1, 7, Rooms.piece(1, 1, 4, 5), Rooms.piece(1, 1, 3, 7));
@@ -31,39 +26,30 @@ public final class LoadTest {
 
     private static void addsWhatWeighs() {
         LoadRoom room = threeAxles();
-        is(room, 0, 5, 3);
-        is(room, 1, 10 * 8 + 21 * 3, 24);
-        is(room, 2, 35, 8);
+        Axled.is(room, 0, 5, 3);
+        Axled.is(room, 1, 10 * 8 + 21 * 3, 24);
+        Axled.is(room, 2, 35, 8);
         room.limit(0, 0);
         for (int axle = 0; axle < 3; axle++) {
-            is(room, axle, 0, 1);
+            Axled.is(room, axle, 0, 1);
         }
-    }
-
-    private static LoadRoom one(int depth, int weight, int... places) {
-        LoadRoom room = Rooms.box(1, 1, 200, Rooms.piece(1, 1, depth, weight));
-        room.pack(1000);
-        for (int place : places) {
-            room.axle(place);
-        }
-        return room;
     }
 
     private static void isInLowestTerms() {
-        is(one(4, 9, 0, 4), 0, 9, 2);
-        is(one(4, 8, 0, 4), 0, 4, 1);
-        is(one(6, 9, 0, 9), 1, 3, 1);
-        is(one(20, 6, 1, 5), 0, -15, 2);
-        is(one(3, 5, 0, 7), 0, 55, 14);
-        is(one(3, 5, 0, 7), 1, 15, 14);
-        LoadRoom wide = one(199, 9999, 0, 1, 1000);
-        is(wide, 0, 0, 1);
-        is(wide, 1, 9999L * 1801 / 9, 1998 / 9);
-        is(wide, 2, 9999L * 197 / 9, 1998 / 9);
+        Axled.is(Axled.one(4, 9, 0, 4), 0, 9, 2);
+        Axled.is(Axled.one(4, 8, 0, 4), 0, 4, 1);
+        Axled.is(Axled.one(6, 9, 0, 9), 1, 3, 1);
+        Axled.is(Axled.one(20, 6, 1, 5), 0, -15, 2);
+        Axled.is(Axled.one(3, 5, 0, 7), 0, 55, 14);
+        Axled.is(Axled.one(3, 5, 0, 7), 1, 15, 14);
+        LoadRoom wide = Axled.one(199, 9999, 0, 1, 1000);
+        Axled.is(wide, 0, 0, 1);
+        Axled.is(wide, 1, 9999L * 1801 / 9, 1998 / 9);
+        Axled.is(wide, 2, 9999L * 197 / 9, 1998 / 9);
     }
 
     private static void tellsWhatIsAbove() {
-        LoadRoom lifted = one(2, 6, 4, 7);
+        LoadRoom lifted = Axled.one(2, 6, 4, 7);
         Check.is("greater than the weight", lifted.load(0, 0), 12);
         Check.is("below 0", lifted.load(1, 0), -6);
         LoadRoom none = new LoadRoom(1, 1, 1);
@@ -95,7 +81,7 @@ public final class LoadTest {
     }
 
     private static void tellsWhatIsBelow() {
-        LoadRoom lifted = one(20, 6, 1, 5);
+        LoadRoom lifted = Axled.one(20, 6, 1, 5);
         Check.is("never below 0", lifted.load(0, 1), 2);
         LoadRoom none = new LoadRoom(1, 1, 1);
         none.axle(3);

@@ -14,13 +14,14 @@ public final class SourceTest {
     private static final int MOST_PARAMETERS = 7;
 
     private static final List<String> NEVER = List.of("\\bpackage\\b", "\\bfinally\\b", "\\bsynchronized\\b",
-            "\\bassert\\b", "\\bThread\\b", "\\b[rR]andom\\b", "\\bhashCode\\b", "\\bSystem\\.(?!arraycopy)", "->", "::",
-            "Exact\\(", "static \\{", "\\bgetMessage\\b", "catch \\(\\w*(Throwable|Error|\\bException)\\b",
+            "\\bassert\\b", "\\bThread\\b", "\\b[rR]andom\\b", "\\bhashCode\\b", "\\bSystem\\.(?!arraycopy)",
+            "->", "::", "Exact\\(", "static \\{", "\\bgetMessage\\b", "catch \\(\\w*(Throwable|Error|\\bException)\\b",
             "catch \\((ArrayIndexOutOfBounds|NullPointer|ClassCast|NegativeArraySize|ArrayStore)Exception");
 
     private static final Pattern THROW = Pattern.compile("throw (?!new (IllegalState|IllegalArgument|IndexOutOfBounds"
             + "|Arithmetic|UnsupportedOperation|NoSuchElement|Runtime)Exception\\((\"\")?\\);)");
-    private static final Pattern METHOD = Pattern.compile("\\n( +)(?=\\S)(?:[\\w\\[\\]]+ )*\\w+\\(([^)]*)\\)[^;{]*\\{\\n");
+    private static final Pattern METHOD =
+            Pattern.compile("\\n( +)(?=\\S)(?:[\\w\\[\\]]+ )*\\w+\\(([^)]*)\\)[^;{]*\\{\\n");
 
     public static void main(String[] args) throws IOException {
         String text = Files.readString(Path.of("src/main/java/LoadRoom.java"));

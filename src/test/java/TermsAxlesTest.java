@@ -17,21 +17,6 @@ public final class TermsAxlesTest {
         Doc.end();
     }
 
-    private static void is(LoadRoom room, int axle, long above, long below) {
-        Check.is("load(" + axle + ", 0)", room.load(axle, 0), above);
-        Check.is("load(" + axle + ", 1)", room.load(axle, 1), below);
-    }
-
-    /** One piece that begins at depth 0, so that it weighs at half its depth. */
-    private static LoadRoom one(int depth, int weight, int... places) {
-        LoadRoom room = Rooms.box(1, 1, 200, Rooms.piece(1, 1, depth, weight));
-        room.pack(1000);
-        for (int place : places) {
-            room.axle(place);
-        }
-        return room;
-    }
-
     private static void areAlongTheDepth() {
         for (int axis = 0; axis < 3; axis++) {
             LoadRoom room = Rooms.ofUnits(axis == 0 ? 4 : 1, axis == 1 ? 4 : 1, axis == 2 ? 4 : 1, 4);
@@ -39,22 +24,22 @@ public final class TermsAxlesTest {
             room.axle(0);
             room.axle(8);
             // Four at 1/2, or one at each of 1/2, 1 1/2, 2 1/2, 3 1/2.
-            is(room, 1, 1, axis == 2 ? 1 : 4);
-            is(room, 0, axis == 2 ? 3 : 15, axis == 2 ? 1 : 4);
+            Axled.is(room, 1, 1, axis == 2 ? 1 : 4);
+            Axled.is(room, 0, axis == 2 ? 3 : 15, axis == 2 ? 1 : 4);
         }
     }
 
     private static void areSixAtMost() {
-        LoadRoom room = one(10, 10, 0, 2, 4, 6, 8, 20);
+        LoadRoom room = Axled.one(10, 10, 0, 2, 4, 6, 8, 20);
         Check.refuses("a seventh", Check.STATE, () -> room.axle(30));
-        is(room, 0, 0, 1);
-        is(room, 1, 0, 1);
-        is(room, 2, 5, 1);
-        is(room, 3, 5, 1);
-        is(room, 4, 0, 1);
-        is(room, 5, 0, 1);
-        is(one(200, 4, 0, 2, 4, 6, 98, 102), 4, 2, 1);
-        is(one(200, 4, 0, 2, 4, 6, 98, 102), 5, 2, 1);
+        Axled.is(room, 0, 0, 1);
+        Axled.is(room, 1, 0, 1);
+        Axled.is(room, 2, 5, 1);
+        Axled.is(room, 3, 5, 1);
+        Axled.is(room, 4, 0, 1);
+        Axled.is(room, 5, 0, 1);
+        Axled.is(Axled.one(200, 4, 0, 2, 4, 6, 98, 102), 4, 2, 1);
+        Axled.is(Axled.one(200, 4, 0, 2, 4, 6, 98, 102), 5, 2, 1);
     }
 
     private static void rise() {
@@ -68,112 +53,112 @@ public final class TermsAxlesTest {
     private static void weighsIfItIsPacked() {
         LoadRoom room = Rooms.box(1, 1, 4, Rooms.piece(1, 1, 4, 5), Rooms.piece(1, 1, 1, 100));
         room.axle(2);
-        is(room, 0, 0, 1);
+        Axled.is(room, 0, 0, 1);
         room.pack(1000);
-        is(room, 0, 5, 1);
+        Axled.is(room, 0, 5, 1);
         room.axle(3);
-        is(room, 0, 5, 1);
-        is(room, 1, 0, 1);
+        Axled.is(room, 0, 5, 1);
+        Axled.is(room, 1, 0, 1);
         room.limit(0, 1);
-        is(room, 0, 0, 1);
-        is(room, 1, 0, 1);
+        Axled.is(room, 0, 0, 1);
+        Axled.is(room, 1, 0, 1);
         LoadRoom bare = new LoadRoom(1, 1, 1);
         bare.axle(0);
         bare.axle(1);
         bare.pack(1);
-        is(bare, 0, 0, 1);
-        is(bare, 1, 0, 1);
+        Axled.is(bare, 0, 0, 1);
+        Axled.is(bare, 1, 0, 1);
     }
 
     private static void weighsAtTheMiddle() {
-        is(one(4, 9, 2, 3), 0, 9, 1);
-        is(one(5, 8, 2, 3), 0, 4, 1);
-        is(one(1, 6, 0, 1), 0, 3, 1);
+        Axled.is(Axled.one(4, 9, 2, 3), 0, 9, 1);
+        Axled.is(Axled.one(5, 8, 2, 3), 0, 4, 1);
+        Axled.is(Axled.one(1, 6, 0, 1), 0, 3, 1);
         LoadRoom turned = Rooms.box(1, 1, 6, Rooms.piece(6, 1, 1, 5));
         turned.turn(0, 1);
         turned.pack(1000);
         turned.axle(3);
         turned.axle(9);
-        is(turned, 0, 5, 1);
+        Axled.is(turned, 0, 5, 1);
         LoadRoom nearer = Rooms.box(1, 1, 5, Rooms.piece(1, 1, 1, 4), Rooms.piece(1, 1, 4, 7));
         nearer.pack(1000);
         Check.is("z of the second", nearer.at(1, 2), 1);
         nearer.axle(0);
         nearer.axle(3);
         // 4 at 1/2, 7 at 3.
-        is(nearer, 0, 10, 3);
-        is(nearer, 1, 23, 3);
+        Axled.is(nearer, 0, 10, 3);
+        Axled.is(nearer, 1, 23, 3);
     }
 
     private static void twoAxlesShareAsALever() {
-        LoadRoom middle = one(4, 9, 0, 4);
-        is(middle, 0, 9, 2);
-        is(middle, 1, 9, 2);
-        LoadRoom nearer = one(4, 9, 1, 4);
-        is(nearer, 0, 6, 1);
-        is(nearer, 1, 3, 1);
-        LoadRoom odd = one(3, 5, 0, 7);
-        is(odd, 0, 5 * 11, 14);
-        is(odd, 1, 5 * 3, 14);
-        LoadRoom first = one(2, 9, 1, 3, 5);
-        is(first, 0, 9, 1);
-        is(first, 1, 0, 1);
-        is(first, 2, 0, 1);
-        LoadRoom second = one(6, 9, 1, 3, 5);
-        is(second, 0, 0, 1);
-        is(second, 1, 9, 1);
-        is(second, 2, 0, 1);
-        LoadRoom last = one(10, 9, 1, 3, 5);
-        is(last, 0, 0, 1);
-        is(last, 1, 0, 1);
-        is(last, 2, 9, 1);
+        LoadRoom middle = Axled.one(4, 9, 0, 4);
+        Axled.is(middle, 0, 9, 2);
+        Axled.is(middle, 1, 9, 2);
+        LoadRoom nearer = Axled.one(4, 9, 1, 4);
+        Axled.is(nearer, 0, 6, 1);
+        Axled.is(nearer, 1, 3, 1);
+        LoadRoom odd = Axled.one(3, 5, 0, 7);
+        Axled.is(odd, 0, 5 * 11, 14);
+        Axled.is(odd, 1, 5 * 3, 14);
+        LoadRoom first = Axled.one(2, 9, 1, 3, 5);
+        Axled.is(first, 0, 9, 1);
+        Axled.is(first, 1, 0, 1);
+        Axled.is(first, 2, 0, 1);
+        LoadRoom second = Axled.one(6, 9, 1, 3, 5);
+        Axled.is(second, 0, 0, 1);
+        Axled.is(second, 1, 9, 1);
+        Axled.is(second, 2, 0, 1);
+        LoadRoom last = Axled.one(10, 9, 1, 3, 5);
+        Axled.is(last, 0, 0, 1);
+        Axled.is(last, 1, 0, 1);
+        Axled.is(last, 2, 9, 1);
         // Half a unit before the second axle, and half a unit behind it.
-        is(one(5, 8, 1, 3, 5), 0, 2, 1);
-        is(one(5, 8, 1, 3, 5), 1, 6, 1);
-        is(one(7, 8, 1, 3, 5), 1, 6, 1);
-        is(one(7, 8, 1, 3, 5), 2, 2, 1);
+        Axled.is(Axled.one(5, 8, 1, 3, 5), 0, 2, 1);
+        Axled.is(Axled.one(5, 8, 1, 3, 5), 1, 6, 1);
+        Axled.is(Axled.one(7, 8, 1, 3, 5), 1, 6, 1);
+        Axled.is(Axled.one(7, 8, 1, 3, 5), 2, 2, 1);
     }
 
     private static void weightsBeforeTheFirstLiftTheSecond() {
-        LoadRoom two = one(2, 6, 4, 7);
-        is(two, 0, 12, 1);
-        is(two, 1, -6, 1);
-        LoadRoom three = one(1, 1, 1, 3, 9);
-        is(three, 0, 5, 4);
-        is(three, 1, -1, 4);
-        is(three, 2, 0, 1);
-        LoadRoom far = one(1, 2, 999, 1000);
-        is(far, 0, 2 * 1000 - 1, 1);
-        is(far, 1, -(2 * 999 - 1), 1);
+        LoadRoom two = Axled.one(2, 6, 4, 7);
+        Axled.is(two, 0, 12, 1);
+        Axled.is(two, 1, -6, 1);
+        LoadRoom three = Axled.one(1, 1, 1, 3, 9);
+        Axled.is(three, 0, 5, 4);
+        Axled.is(three, 1, -1, 4);
+        Axled.is(three, 2, 0, 1);
+        LoadRoom far = Axled.one(1, 2, 999, 1000);
+        Axled.is(far, 0, 2 * 1000 - 1, 1);
+        Axled.is(far, 1, -(2 * 999 - 1), 1);
     }
 
     private static void weightsBehindTheLastLiftTheOneBefore() {
-        LoadRoom two = one(20, 6, 1, 5);
-        is(two, 0, -15, 2);
-        is(two, 1, 27, 2);
-        LoadRoom three = one(200, 1, 10, 20, 50);
-        is(three, 0, 0, 1);
-        is(three, 1, -5, 3);
-        is(three, 2, 8, 3);
-        LoadRoom near = one(11, 2, 1, 3, 5);
-        is(near, 1, -1, 2);
-        is(near, 2, 5, 2);
+        LoadRoom two = Axled.one(20, 6, 1, 5);
+        Axled.is(two, 0, -15, 2);
+        Axled.is(two, 1, 27, 2);
+        LoadRoom three = Axled.one(200, 1, 10, 20, 50);
+        Axled.is(three, 0, 0, 1);
+        Axled.is(three, 1, -5, 3);
+        Axled.is(three, 2, 8, 3);
+        LoadRoom near = Axled.one(11, 2, 1, 3, 5);
+        Axled.is(near, 1, -1, 2);
+        Axled.is(near, 2, 5, 2);
     }
 
     private static void oneAxleTakesAll() {
-        is(one(3, 7, 0), 0, 7, 1);
-        is(one(3, 7, 1), 0, 7, 1);
-        is(one(3, 7, 1000), 0, 7, 1);
+        Axled.is(Axled.one(3, 7, 0), 0, 7, 1);
+        Axled.is(Axled.one(3, 7, 1), 0, 7, 1);
+        Axled.is(Axled.one(3, 7, 1000), 0, 7, 1);
         LoadRoom two = Rooms.box(1, 1, 5, Rooms.piece(1, 1, 1, 2), Rooms.piece(1, 1, 4, 9));
         two.axle(3);
         two.pack(1000);
-        is(two, 0, 11, 1);
+        Axled.is(two, 0, 11, 1);
         LoadRoom heavy = new LoadRoom(8, 1, 1);
         for (int i = 0; i < 8; i++) {
             heavy.piece(1, 1, 1, 10000);
         }
         heavy.pack(8);
         heavy.axle(0);
-        is(heavy, 0, 80000, 1);
+        Axled.is(heavy, 0, 80000, 1);
     }
 }

@@ -14,7 +14,8 @@ public final class TermsExceptionsTest {
         Doc.says("IndexOutOfBoundsException: there is no such piece,", TermsExceptionsTest::thereIsNoSuchPiece);
         Doc.says("axle.", TermsExceptionsTest::thereIsNoSuchAxle);
         Doc.says("ArithmeticException,", TermsExceptionsTest::thereIsNoAxle);
-        Doc.says("IllegalArgumentException (a number is out of its bounds),", TermsExceptionsTest::numbersAreOutOfBounds);
+        Doc.says("IllegalArgumentException (a number is out of its bounds),",
+                TermsExceptionsTest::numbersAreOutOfBounds);
         Doc.says("IllegalStateException: as told.", TermsExceptionsTest::thereIsNoRoomForMore);
         Doc.says("A call that throws changes nothing.", TermsExceptionsTest::callsThatThrowChangeNothing);
         Doc.end();
