@@ -10,10 +10,30 @@ final class Check {
     static final Class<IllegalStateException> STATE = IllegalStateException.class;
     static final Class<ArithmeticException> ARITHMETIC = ArithmeticException.class;
 
+    /** Far more than any test needs. */
+    private static final long MOST_MILLISECONDS = 300_000;
+
     private static int wrong = 0;
-    private static String about = "";
+    private static volatile String about = "";
+
+    static {
+        Thread watch = new Thread(Check::watch);
+        watch.setDaemon(true);
+        watch.start();
+    }
 
     private Check() {
+    }
+
+    /** A call that does not end is a wrong answer too. */
+    private static void watch() {
+        try {
+            Thread.sleep(MOST_MILLISECONDS);
+        } catch (InterruptedException e) {
+            return;
+        }
+        System.out.println(about + "a call did not end");
+        Runtime.getRuntime().halt(1);
     }
 
     /** What the checks that follow are about; each wrong answer is told with it. */
